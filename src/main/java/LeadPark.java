@@ -534,9 +534,9 @@ public final class LeadPark {
             if (here >= size) {
                 return;
             }
-            if (isLetter(here)) {
+            if (bytes[here] >= 'a' && bytes[here] <= 'z') {
                 passWord();
-            } else if (isDigit(here)) {
+            } else if (bytes[here] >= '0' && bytes[here] <= '9') {
                 passNumber();
             } else {
                 behind++;
@@ -544,13 +544,13 @@ public final class LeadPark {
         }
 
         private void passWord() {
-            while (behind < size && isLetter(behind)) {
+            while (behind < size && bytes[behind] >= 'a' && bytes[behind] <= 'z') {
                 behind++;
             }
         }
 
         private void passNumber() {
-            while (behind < size && isDigit(behind)) {
+            while (behind < size && bytes[behind] >= '0' && bytes[behind] <= '9') {
                 // A longer number is wrong whatever it tells, so it need not be told.
                 if (digits < LONG_DIGITS) {
                     value = value * 10 + (bytes[behind] - '0');
@@ -558,14 +558,6 @@ public final class LeadPark {
                 digits++;
                 behind++;
             }
-        }
-
-        private boolean isLetter(int at) {
-            return bytes[at] >= 'a' && bytes[at] <= 'z';
-        }
-
-        private boolean isDigit(int at) {
-            return bytes[at] >= '0' && bytes[at] <= '9';
         }
 
         boolean isOver() {
@@ -852,10 +844,17 @@ public final class LeadPark {
             if (tape.isOver()) {
                 return true;
             }
-            for (int line = 0; line < MAX_LAW_LINES; line++) {
-                if (!readLine(tape)) {
-                    return false;
+            for (int line = 0; line < MAX_LAW_LINES && tape.isWord("bar"); line++) {
+                tape.toNext();
+                if (!tape.isWord("if")) {
+                    give(ALWAYS);
+                } else {
+                    tape.toNext();
+                    if (!readCondition(tape, 0)) {
+                        return false;
+                    }
                 }
+                give(LINE);
                 lines++;
                 if (tape.isOver()) {
                     return true;
@@ -875,49 +874,30 @@ public final class LeadPark {
             }
         }
 
-        private boolean readLine(Tape tape) {
-            if (!tape.isWord("bar")) {
-                return false;
-            }
-            tape.toNext();
-            if (tape.isWord("if")) {
-                tape.toNext();
-                if (!readAny(tape, 0)) {
-                    return false;
-                }
-            } else {
-                give(ALWAYS);
-            }
-            give(LINE);
-            return true;
-        }
-
-        private boolean readAny(Tape tape, int depth) {
-            if (!readAll(tape, depth)) {
-                return false;
-            }
-            for (int k = 0; k < MAX_TAPE && tape.isWord("or"); k++) {
-                tape.toNext();
-                if (!readAll(tape, depth)) {
-                    return false;
-                }
-                give(OR);
-            }
-            return true;
-        }
-
-        private boolean readAll(Tape tape, int depth) {
-            if (!readAtom(tape, depth)) {
-                return false;
-            }
-            for (int k = 0; k < MAX_TAPE && tape.isWord("and"); k++) {
-                tape.toNext();
+        /** Joins by and are closed ahead of joins by or, which wait for the and behind them. */
+        private boolean readCondition(Tape tape, int depth) {
+            boolean andWaits = false;
+            boolean orWaits = false;
+            for (int k = 0; k < MAX_TAPE; k++) {
                 if (!readAtom(tape, depth)) {
                     return false;
                 }
-                give(AND);
+                if (andWaits) {
+                    give(AND);
+                }
+                andWaits = tape.isWord("and");
+                if (!andWaits) {
+                    if (orWaits) {
+                        give(OR);
+                    }
+                    orWaits = tape.isWord("or");
+                    if (!orWaits) {
+                        return true;
+                    }
+                }
+                tape.toNext();
             }
-            return true;
+            return false;
         }
 
         private boolean readAtom(Tape tape, int depth) {
@@ -936,7 +916,7 @@ public final class LeadPark {
                 give(NOT);
                 return true;
             }
-            if (!readAny(tape, depth + 1) || !tape.isSign(')')) {
+            if (!readCondition(tape, depth + 1) || !tape.isSign(')')) {
                 return false;
             }
             tape.toNext();
