@@ -817,6 +817,7 @@ public final class LeadPark {
                         truths ^= 1;
                         break;
                     case AND:
+                        // The latest two become one here and by OR; those below stay as they are.
                         truths = truths >> 1 & (truths | ~1);
                         break;
                     case OR:
