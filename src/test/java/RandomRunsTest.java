@@ -4,7 +4,7 @@ import java.util.function.LongSupplier;
 
 /** Runs of calls by chance (the same each time), each answered by LeadPark and by the Model alike. */
 public final class RandomRunsTest {
-    private static final int RUNS = 300;
+    private static final int RUNS = 1000;
     private static final int CALLS = 200;
 
     private final Random chance;
