@@ -4,15 +4,21 @@ import java.util.function.LongSupplier;
 final class Checks {
     private static int wrong = 0;
     private static int made = 0;
+    /** What the checks are for: it is told ahead of each that is wrong. */
+    private static String about = "";
 
     private Checks() {
+    }
+
+    static void about(String purpose) {
+        about = purpose;
     }
 
     static void equal(String what, long want, long got) {
         made++;
         if (want != got) {
             wrong++;
-            System.out.println(what + " answered " + got + ", due is " + want);
+            System.out.println(about + what + " answered " + got + ", due is " + want);
         }
     }
 
@@ -28,7 +34,7 @@ final class Checks {
         made++;
         if (!want.equals(got)) {
             wrong++;
-            System.out.println(what + " answered " + got + ", due is " + want);
+            System.out.println(about + what + " answered " + got + ", due is " + want);
         }
     }
 
