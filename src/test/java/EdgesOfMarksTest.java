@@ -21,6 +21,14 @@ public final class EdgesOfMarksTest {
         }
         Checks.equal("20", 20, x.count(4));
 
+        Edge.of(26, "A MARK (of the dog, if told so): its number.");
+        LeadPark told = new LeadPark();
+        Checks.equal("the man's", 0, told.mark(MAN, 5, 0, 0));
+        Checks.equal("again the man's", 1, told.mark(MAN, 5, 3, 4));
+        Checks.equal("nobody is with him", NONE, told.needed());
+        Checks.equal("the dog's", 2, told.mark(DOG, 5, 3, 4));
+        Checks.equal("the dog is with him", 25, told.needed());
+
         Edge.of(26, "UnsupportedOperationException: there are 20");
         Checks.unsupported("the man's 21st", () -> x.mark(MAN, 0, 0, 0));
         Checks.unsupported("the dog's 21st", () -> x.mark(DOG, 0, 999, 999));
@@ -162,6 +170,16 @@ public final class EdgesOfMarksTest {
     }
 
     private static void fitsPairs() {
+        Edge.of(29, "FITS: how many pairs do not (pair false), or the first; NONE.");
+        LeadPark three = new LeadPark();
+        three.mark(MAN, 0, 0, 0);
+        three.mark(MAN, 1, 5, 0);
+        three.mark(MAN, 2, 20, 0);
+        Checks.equal("one does not", 1, three.fits(0, 10, false));
+        Checks.equal("the last two", 102, three.fits(0, 10, true));
+        Checks.equal("all do", 0, three.fits(0, 15, false));
+        Checks.equal("so there is no first", NONE, three.fits(0, 15, true));
+
         Edge.of(29, "how many pairs of MARKS do not");
         LeadPark x = new LeadPark();
         Checks.equal("without marks", 0, x.fits(0, 0, false));

@@ -131,9 +131,31 @@ public final class EdgesOfPlacesTest {
                     + Texts.repeated("wall 0 5 9 5;", "", at) + "wall 4 0 4 9" + Texts.repeated(";wall 0 5 9 5", "", 7 - at));
             Checks.isTrue("wall " + at, x.shut(0, 0, 1, 0));
         }
+        wallsOfTheirOwn();
         LeadPark none = Texts.parkOf("way 0 0;way 9 0;" + Texts.repeated("wall 0 5 9 5", ";", 8));
         Checks.isFalse("none of 8", none.shut(0, 0, 1, 0));
         Checks.isFalse("nor a wall that was not told", Texts.parkOf("way 0 0").shut(0, 0, 0, 0));
+    }
+
+    /** Eight walls, each at a place of its own: their ends are shut, and the points beside them are open. */
+    private static void wallsOfTheirOwn() {
+        StringBuilder walls = new StringBuilder();
+        StringBuilder ends = new StringBuilder("way");
+        StringBuilder beside = new StringBuilder("way");
+        for (int k = 0; k < 8; k++) {
+            int x = 100 * k + 10;
+            int y = 50 * k + 20;
+            walls.append(k == 0 ? "wall " : ";wall ").append(x + " " + y + " " + (x + 3) + " " + (y + 7));
+            ends.append(" " + x + " " + y + " " + (x + 3) + " " + (y + 7));
+            beside.append(" " + (x + 1) + " " + y + " " + (x + 3) + " " + (y + 6));
+        }
+        LeadPark x = Texts.parkOf(ends.toString());
+        Texts.park(x, beside.toString());
+        Texts.park(x, walls.toString());
+        for (int k = 0; k < 16; k++) {
+            Checks.isTrue("end " + k, x.shut(0, k, 0, k));
+            Checks.isFalse("beside end " + k, x.shut(1, k, 1, k));
+        }
     }
 
     private static void shutByPoints() {
@@ -151,6 +173,10 @@ public final class EdgesOfPlacesTest {
         wall("a wall that is a point, at its end", true, "0 0", "10 10", "10 10", "10 10");
         wall("a wall that is a point, beside", false, "0 0", "10 10", "3 4", "3 4");
         wall("a wall that is a point, behind", false, "0 0", "10 10", "11 11", "11 11");
+        wall("a wall that is a point, beside by the least", false, "0 0", "3 1", "2 1", "2 1");
+        wall("beside by the least on the other side", false, "0 0", "3 1", "1 0", "1 0");
+        wall("a point beside a wall by the least", false, "2 1", "2 1", "0 0", "3 1");
+        wall("a point on the other side of the wall", false, "1 0", "1 0", "0 0", "3 1");
         wall("two points that are one", true, "7 7", "7 7", "7 7", "7 7");
         wall("two points beside one another", false, "7 7", "7 7", "7 8", "7 8");
         wall("two points level", false, "7 7", "7 7", "8 7", "8 7");

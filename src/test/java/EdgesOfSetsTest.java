@@ -10,6 +10,7 @@ public final class EdgesOfSetsTest {
         fewerOfSeveral();
         own();
         forged();
+        largest();
         Edge.finish(21, 25);
     }
 
@@ -24,6 +25,21 @@ public final class EdgesOfSetsTest {
 
     private static LeadPark twelve() {
         return spots(0, 20, 40, 60, 80, 100, 120, 140, 160, 180, 200, 201);
+    }
+
+    private static void largest() {
+        LeadPark x = Texts.largest();
+        Edge.of(21, "1 to 30 CORNERS each (numbered from 0 on)");
+        Checks.equal("nearest to the 12th", 0, x.nearest(11, -1));
+        Checks.equal("the 12th is nearest", 11, x.nearest(0, 1 << 11));
+        Edge.of(22, "1 to 30 CORNERS each (numbered from 0 on)");
+        Checks.equal("middle", 10, x.middle(3 << 10));
+        Edge.of(23, "1 to 30 CORNERS each (numbered from 0 on)");
+        Checks.equal("fewer of the 12th", 1 | 1 << 29, x.fewer(11, 0));
+        Edge.of(24, "1 to 30 CORNERS each (numbered from 0 on)");
+        Checks.equal("own", 0, x.own(-1));
+        Edge.of(25, "1 to 30 CORNERS each (numbered from 0 on)");
+        Checks.isFalse("the 12th is not forged", x.forged(11, -1));
     }
 
     private static void nearest() {
@@ -85,6 +101,11 @@ public final class EdgesOfSetsTest {
         Checks.equal("without the first", 3, x.middle(14));
         Checks.equal("the 12th", 11, spots(0, 20, 40, 60, 80, 100, 120, 140, 160, 180, 200, 99).middle(1 | 1 << 10 | 1 << 11));
         Checks.equal("of 12", 5, twelve().middle(0xfff));
+        LeadPark zero = Texts.parkOf("way 0 0 1 0;way 0 0 0 0 1 0");
+        Texts.law(zero, "bar if man < 1 and dog > 0 and dog < 2");
+        Checks.equal("the first has 1", 1, zero.least(0, 1));
+        Checks.equal("the second has 0", 0, zero.least(1, 0));
+        Checks.equal("so it is the middle", 1, zero.middle(3));
 
         Edge.of(22, "(0 without others)");
         Checks.equal("one way", 0, spots(7).middle(1));

@@ -59,6 +59,17 @@ public final class EdgesOfStrollTest {
         Checks.isTrue("the greatest", far.begin(0, 1, 1996002));
         told("one corner each: at their ends", far, 0, 0, 0, 1996002, 1, 0, 1996002);
 
+        LeadPark last = Texts.largest();
+        Checks.isTrue("the 12th way of 30 corners", last.begin(11, 11, 0));
+        Checks.isTrue("all its steps", last.live(60) >= 29);
+        told("to its ends", last, 29, 29, last.on(2), 0, 1, Math.min(40, last.on(2)), 0);
+
+        Edge.of(30, "A LEAD is told as its square.");
+        LeadPark square = Texts.parkOf("way 0 0;way 3 4");
+        Checks.isFalse("5 is not 5 long", square.begin(0, 1, 5));
+        Checks.isFalse("nor is 24", square.begin(0, 1, 24));
+        Checks.isTrue("but 25 is", square.begin(0, 1, 25));
+
         Edge.of(30, "A WALK ON THE WAY is begun (in place of the one there is): whether it can be.");
         LeadPark y = lanes();
         y.begin(0, 1, 500);
@@ -114,6 +125,8 @@ public final class EdgesOfStrollTest {
             Checks.equal("at the ends: " + step, NONE, x.step(step));
         }
         told("nothing happened there", x, 2, 2, 3, 109, 1, 3, 109);
+
+        Edge.of(31, "then STEP by STEP (refused likewise)");
         x.begin(0, 1, 108);
         Checks.equal("too far by one", NONE, x.step(1));
         LeadPark y = Texts.parkOf("way 0 0 0 0;way 0 0 0 0 0 0");
@@ -245,6 +258,15 @@ public final class EdgesOfStrollTest {
         Checks.equal("nor drawn", 1, x.seed(1));
         Checks.equal("1", 1, x.live(1));
         Checks.equal("one was gone", 1, x.on(2));
+
+        Edge.of(33, "DRAWN: how many STEPS were gone.");
+        LeadPark lanes = lanes();
+        lanes.begin(0, 1, 16);
+        Checks.equal("of one that is asked for", 1, lanes.live(1));
+        Checks.equal("of two that are left to go, one is gone", 1, lanes.live(2));
+        Checks.equal("of none that is left", 0, lanes.live(1));
+        lanes.undo();
+        Checks.equal("of the one taken back", 1, lanes.live(60));
 
         Edge.of(33, "DRAWN: so many STEPS at most");
         int gone = x.live(60);
@@ -523,6 +545,7 @@ public final class EdgesOfStrollTest {
         told("the walk that was ended", y, 1, 1, 2, 109, 0, 0, 500);
         Checks.equal("it goes on", 9, y.step(3));
         told("to its end", y, 2, 2, 3, 109, 1, 1, 500);
+        againToAnotherWalk();
         LeadPark z = thirty();
         for (int k = 2; k <= 15; k++) {
             Texts.park(z, "");
@@ -536,6 +559,35 @@ public final class EdgesOfStrollTest {
         Texts.law(z, "");
         z.again();
         Checks.equal("the law is none again", NONE, z.count(3));
+    }
+
+    private static void againToAnotherWalk() {
+        LeadPark x = Texts.parkOf("way 0 0 10 0 20 0;way 0 3 10 4 20 3;way 0 5 9 9 9 0");
+        x.mark(true, 1, 2, 3);
+        x.mark(false, 1, 2, 5);
+        x.begin(0, 1, 500);
+        x.step(1);
+        x.step(2);
+        x.image();
+        x.unmark();
+        x.unmark();
+        x.mark(false, 5, 9, 9);
+        x.mark(false, 6, 8, 8);
+        x.begin(2, 2, 7000);
+        x.step(1);
+        x.step(1);
+        told("another walk", x, 2, 0, 2, 106, 0, 2, 7000);
+        Checks.isTrue("again", x.again());
+        told("the one of the image", x, 1, 1, 2, 109, 0, 0, 500);
+        Checks.equal("by its own ways", 116, x.step(1));
+        Checks.equal("the marks' minutes and whose they are", 4, x.needed());
+        x.begin(1, 0, 900);
+        x.step(3);
+        x.unmark();
+        x.mark(true, 1, 2, 5);
+        x.again();
+        Checks.equal("and the other way round", 4, x.needed());
+        Checks.equal("the walk, too", 116, x.step(1));
     }
 
     private static void againButFor() {

@@ -27,6 +27,8 @@ public final class EdgesOfWalksTest {
         three();
         drag();
         noSuchWay();
+        largest();
+        manyCalls();
         Edge.finish(11, 20);
     }
 
@@ -268,6 +270,11 @@ public final class EdgesOfWalksTest {
         Texts.park(x, "wall 3 0 3 9");
         Checks.equal("by a wall", 0, Texts.judge(x, 0, 1, Integer.MAX_VALUE, "1122"));
 
+        Edge.of(14, "A LEAD is told as its square.");
+        LeadPark square = Texts.parkOf("way 0 0;way 3 4");
+        Checks.equal("5 is not 5 long", -2, Texts.judge(square, 0, 1, 5, ""));
+        Checks.equal("25 is", NONE, Texts.judge(square, 0, 1, 25, ""));
+
         LeadPark y = Texts.parkOf(line(0, 0, 0) + ";" + line(0, 0));
         Edge.of(14, "the first one (from 0 on) that cannot be gone (a WAY is at its end)");
         Checks.equal("the man at once", 2, Texts.judge(y, 0, 1, 0, "111"));
@@ -425,9 +432,28 @@ public final class EdgesOfWalksTest {
         Checks.equal("which none can go without going back", NONE, snake.least(0, 1));
         LeadPark cut = park(man + ";way " + THIRTY, law + ";bar if man > 13 and man < 15 and dog > 14 and dog < 16");
         Checks.equal("cut in its midst", NONE, cut.back(0, 1));
+        LeadPark zigzag = zigzag("");
+        Checks.equal("zigzag to and fro", 9, zigzag.back(0, 1));
+        Checks.equal("as the only way", NONE, zigzag(";bar if man > 11 and man < 13 and dog > 13 and dog < 17").back(0, 1));
         String turned = law.replace("my", "dy").replace("dog", "man");
         LeadPark other = park(man + ";way " + THIRTY, turned);
         Checks.equal("the man to and fro", 4, other.back(1, 0));
+    }
+
+    /**
+     * Nine times two rows through which one can go by turns alone (the man at X 0 by even CORNERS of the dog, at
+     * X 1 by odd ones), and between them a row that is open at its end (X 2) or at its begin (X 3).
+     */
+    private static LeadPark zigzag(String more) {
+        StringBuilder man = new StringBuilder("way");
+        for (int m = 0; m < 26; m++) {
+            man.append(' ').append(m % 3 < 2 ? m % 3 : 2 + m / 3 % 2).append(" 0");
+        }
+        LeadPark x = Texts.parkOf(man.toString());
+        Texts.park(x, "way " + Texts.repeated("0 0 1 0", " ", 15));
+        Texts.law(x, "bar if mx < 1 and dx > 0;bar if mx > 0 and mx < 2 and dx < 1;bar if mx > 1 and mx < 3 and dog < 29;"
+                + "bar if mx > 2 and dog > 0" + more);
+        return x;
     }
 
     /** Each PLACE of the maze is on the only walk through it. */
@@ -447,6 +473,14 @@ public final class EdgesOfWalksTest {
         Checks.equal("as by three", 0, x.ring(0, 1, false));
         Checks.equal("three as by two", 0, x.ring(1, 0, false));
         Checks.equal("the way home counts", 0, Texts.parkOf(line(5, 0, 9) + ";" + line(5, 0, 9, 9)).ring(0, 1, false));
+
+        Edge.of(17, "the man goes from his CORNER 0 round to it again");
+        LeadPark own = park(line(0, 9, 0, 9), "bar if man < 1");
+        Checks.equal("from no other", NONE, own.ring(0, 0, false));
+        Texts.law(own, "bar if man < 1 and dog < 3");
+        Checks.equal("with the dog there", 3, own.ring(0, 0, true));
+        Checks.equal("to 0 again by the lead", 81, own.ring(0, 0, false));
+        Checks.equal("the way to 0 is one, too", 81, Texts.parkOf(line(0, 0) + ";" + line(9, 9)).ring(0, 1, false));
 
         Edge.of(17, "the dog from any CORNER B of his round to it");
         StringBuilder man = new StringBuilder("way");
@@ -640,6 +674,39 @@ public final class EdgesOfWalksTest {
             Checks.outOfBounds("a new park", asked(call, new LeadPark(), 0, 0, 0));
             long due = call == 12 || call == 14 ? NONE : 0;
             Checks.equal("the 12th is there", due, asked(call, x, 11, 11, 11).getAsLong());
+        }
+    }
+
+    private static void largest() {
+        LeadPark x = Texts.largest();
+        for (int promise = 11; promise <= 20; promise++) {
+            Edge.of(promise, "1 to 30 CORNERS each (numbered from 0 on)");
+            long due = promise == 14 ? NONE : promise == 12 ? 1 : 0;
+            Checks.equal("the 12th way of 30", due, asked(promise, x, 11, 11, 11).getAsLong());
+            Checks.equal("as the man's", due, asked(promise, x, 11, 0, 0).getAsLong());
+            Checks.equal("as the dog's", due, asked(promise, x, 0, 11, 0).getAsLong());
+            Checks.equal("as the other dog's", due, asked(promise, x, 0, 0, 11).getAsLong());
+        }
+        Texts.law(x, "bar if man+dog > 57");
+        for (int promise : new int[] {11, 12, 13, 16, 18, 20}) {
+            Edge.of(promise, "1 to 30 CORNERS each (numbered from 0 on)");
+            Checks.equal("the last place of all is shut", NONE, asked(promise, x, 11, 11, 11).getAsLong());
+        }
+    }
+
+    /** What is asked of one object, again and again, is answered as by a new one. */
+    private static void manyCalls() {
+        String text = line(0, 9, 3, 0) + ";" + line(0, 1) + ";" + line(50, 9, 50) + ";" + line(70) + ";" + line(1, 0, 1, 0, 0);
+        String law = "bar if man > 1 and dog > 2 and far > 2000";
+        LeadPark x = park(text, law);
+        for (int promise = 11; promise <= 20; promise++) {
+            Edge.of(promise, "An object is used for at most 512 calls after it has been made");
+            for (int pair = 0; pair < 25; pair++) {
+                int man = pair / 5;
+                int dog = pair % 5;
+                long due = asked(promise, park(text, law), man, dog, 0).getAsLong();
+                Checks.equal(man + " with " + dog, due, asked(promise, x, man, dog, 0).getAsLong());
+            }
         }
     }
 

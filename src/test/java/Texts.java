@@ -60,6 +60,16 @@ final class Texts {
         park.end(0);
     }
 
+    /** Twelve ways of 30 corners, all at one point. */
+    static LeadPark largest() {
+        LeadPark park = new LeadPark();
+        String way = "way " + repeated("0 0", " ", 30);
+        for (int k = 1; k <= 4; k++) {
+            Checks.equal("park " + k + " of 12 ways", k, park(park, way + ";" + way + ";" + way));
+        }
+        return park;
+    }
+
     static String repeated(String part, String between, int times) {
         StringBuilder all = new StringBuilder();
         for (int k = 0; k < times; k++) {
