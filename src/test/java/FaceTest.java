@@ -20,6 +20,7 @@ public final class FaceTest {
         faceIsTheDocuments();
         nothingElseIsSeen();
         sourceKeepsToTheLanguage();
+        methodsAndClassesAreShort();
         Checks.finish();
     }
 
@@ -99,6 +100,27 @@ public final class FaceTest {
                 + "LeadPark\\b"));
         Checks.equal("nothing is made but in fields", count(code, "\\bnew "),
                 count(code, "private final \\S+ \\w+ = new ") + count(code, "throw new "));
+    }
+
+    private static void methodsAndClassesAreShort() throws IOException {
+        Matcher method = Pattern.compile("(?ms)^( {4}| {8})\\w[^\n=;]*\\([^;{}]*\\)[^;{}]*\\{$.*?^\\1\\}$")
+                .matcher(Files.readString(SOURCE));
+        int methods = 0;
+        while (method.find()) {
+            methods++;
+            long lines = method.group().lines().count();
+            Checks.isTrue("some sixty lines at most, not " + lines + ": " + method.group().lines().findFirst(), lines <= 60);
+        }
+        Checks.isTrue("methods were found", methods > 100);
+        List<Class<?>> all = new ArrayList<>(List.of(LeadPark.class.getDeclaredClasses()));
+        all.add(LeadPark.class);
+        for (Class<?> one : all) {
+            int fields = 0;
+            for (Field field : one.getDeclaredFields()) {
+                fields += Modifier.isStatic(field.getModifiers()) ? 0 : 1;
+            }
+            Checks.isTrue(one + " has some twenty fields at most, not " + fields, fields <= 20);
+        }
     }
 
     private static int count(String text, String what) {
